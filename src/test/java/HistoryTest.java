@@ -51,7 +51,7 @@ final class HistoryTest {
         switch (which) {
             case 0: x.exchange(0, 1); break;
             case 1: x.reverse(); break;
-            case 2: Checks.type(x, "(8,9)"); x.readMove(); break;
+            case 2: Checks.type(x, "(8,9)(20,23,21)"); x.readMove(); break;
             case 3: x.sell(5); break;
             case 4: x.punch(0, 9); break;
             case 5: x.forge(0, 9, false); break;

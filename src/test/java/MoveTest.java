@@ -156,6 +156,7 @@ final class MoveTest {
         dueMove(Checks.withMove("(22,3,7)"), 3, 22, 21, 3, 1);
         dueMove(Checks.withMove("(0,1,2,3)(4,5,6,7,8,9)"), 12, 16, 14, 6, 1);
         dueMove(Checks.withMove("(0,1,2,3)(4,5,6,7,8,9)(23,22)"), 12, 15, 12, 6, 0);
+        dueMove(Checks.withMove("(0,1)(13,15,17,19,21)"), 10, 19, 17, 5, 0);
         HoleTickets still = Checks.withMove("(0,1)");
         still.exchange(0, 1);
         dueMove(still, 1, 24, 24, 1, 1);
