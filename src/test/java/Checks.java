@@ -1,3 +1,6 @@
+import java.util.function.Supplier;
+import java.util.function.ToIntFunction;
+
 /** Compares answers with those that are due, and ends with exit code 1 if one is not. */
 final class Checks {
     static final int ALL = (1 << 24) - 1;
@@ -52,24 +55,52 @@ final class Checks {
         return x;
     }
 
-    /** Everything that can be asked of an object, but for its text and the size of its history. */
+    /** All of which a state consists, asked by few calls, since an object answers for 512 calls alone. */
     static String told(HoleTickets x) {
         StringBuilder told = new StringBuilder();
-        for (int what = 0; what <= 4; what++) {
-            told.append(" m").append(x.move(what));
-        }
         for (int place = 0; place < 24; place++) {
             told.append(" p").append(x.place(place, 0)).append('<').append(x.place(place, 1));
         }
-        for (int ticket = 0; ticket < x.count(0); ticket++) {
-            for (int what = 0; what <= 8; what++) {
-                told.append(what == 0 ? " t" : ",").append(x.ticket(ticket, what));
-            }
+        int sold = x.count(0);
+        for (int ticket = 0; ticket < sold; ticket++) {
+            told.append(" t").append(x.ticket(ticket, 0)).append(',').append(x.ticket(ticket, 1));
+            told.append(',').append(x.ticket(ticket, 7)).append(',').append(x.ticket(ticket, 8));
         }
-        for (int what = 0; what <= 8; what++) {
-            told.append(" c").append(x.count(what));
-        }
-        return told.append(" l").append(x.light()).toString();
+        return told.append(" c").append(x.count(6)).append(',').append(x.count(7)).append(',').append(x.count(8)).toString();
+    }
+
+    /** The state, the text, the latest state of the history and the snapshot; the object is used up then. */
+    static String everything(HoleTickets x) {
+        StringBuilder told = new StringBuilder(told(x));
+        told.append(" h").append(x.count(9)).append(" x").append(x.count(10));
+        told.append(" f").append(x.fault(0)).append(',').append(x.fault(1));
+        told.append(" u").append(x.undo()).append(told(x));
+        return told.append(" r").append(x.restore()).append(told(x)).toString();
+    }
+
+    /** The call answers an error or NONE, and all is then as in an object that was never called so. */
+    void refused(Supplier<HoleTickets> state, String call, ToIntFunction<HoleTickets> refusedCall, int want) {
+        HoleTickets x = state.get();
+        due(call, refusedCall.applyAsInt(x), want);
+        same(call + " changes nothing", everything(x), everything(state.get()));
+    }
+
+    /** Rounds of three, of four and of two, three tickets, a text, a snapshot, and three states in the history. */
+    static HoleTickets someState() {
+        HoleTickets x = withMove("(0,1,2)(3,4,5,6)(20,23)");
+        x.sell(set(0, 3, 23));
+        x.sell(set(1, 4));
+        x.sell(0);
+        x.stack(0, true);
+        x.turn(1, -5);
+        x.keep();
+        x.forge(0, 9, true);
+        x.forge(0, 3, false);
+        x.stack(1, true);
+        x.undo();
+        x.stack(2, true);
+        x.undo();
+        return x;
     }
 
     void same(String call, String got, String want) {

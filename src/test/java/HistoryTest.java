@@ -15,21 +15,24 @@ final class HistoryTest {
         CHECKS.due(call, got, want);
     }
 
-    private static void promise15Undo() {
+    private static HoleTickets sold(int tickets) {
         HoleTickets x = new HoleTickets();
-        String[] told = new String[8];
-        for (int ticket = 0; ticket < 7; ticket++) {
-            told[ticket] = Checks.told(x);
+        for (int ticket = 0; ticket < tickets; ticket++) {
             x.sell(ticket);
-            due("count(9)", x.count(9), Math.min(ticket + 1, 4));
         }
+        return x;
+    }
+
+    private static void promise15Undo() {
+        HoleTickets x = sold(7);
+        due("count(9)", x.count(9), 4);
         for (int left = 3; left >= 0; left--) {
             due("undo", x.undo(), left);
-            CHECKS.same("the state", Checks.told(x), told[3 + left]);
+            CHECKS.same("the state", Checks.told(x), Checks.told(sold(3 + left)));
             due("count(9)", x.count(9), left);
         }
         due("undo when empty", x.undo(), NONE);
-        CHECKS.same("nothing changes", Checks.told(x), told[3]);
+        CHECKS.same("nothing changes", Checks.told(x), Checks.told(sold(3)));
         due("sell", x.sell(9), 3);
         due("undo", x.undo(), 0);
         due("undo when empty", x.undo(), NONE);

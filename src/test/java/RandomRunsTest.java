@@ -4,6 +4,7 @@ import java.util.Random;
 final class RandomRunsTest {
     private static final int RUNS = 240;
     private static final int CALLS = 512;
+    private static final int CALLS_OF_A_TEXT = 80;
     private static final Checks CHECKS = new Checks("RandomRunsTest");
 
     private final Random chance;
@@ -29,7 +30,7 @@ final class RandomRunsTest {
             int kind = chance.nextInt(100);
             if (kind < 45) {
                 act(chance.nextInt(run % 3 == 0 ? 8 : 11));
-            } else if (kind < 50) {
+            } else if (kind < 50 && calls + CALLS_OF_A_TEXT <= CALLS) {
                 text();
             } else if (kind < 54) {
                 history(chance.nextInt(8));
