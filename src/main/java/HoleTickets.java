@@ -675,7 +675,6 @@ public final class HoleTickets {
             int ticket = sold;
             holes[ticket] = set;
             due[ticket] = set;
-            // a state that was undone can have left a sum in this row
             turnedBy[ticket] = 0;
             sold++;
             punched += Integer.bitCount(set);

@@ -254,7 +254,7 @@ final class MoveEdgesTest {
 
     // "Places that are in no round are sent to themselves"
     private static void readMoveSendsOthersToThemselves() {
-        HoleTickets x = new HoleTickets();
+        HoleTickets x = Checks.withMove("(0,23,1,22)");
         Checks.type(x, "(1,22)");
         due("readMove()", x.readMove(), 2);
         for (int place = 0; place < 24; place++) {

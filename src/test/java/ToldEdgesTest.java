@@ -26,7 +26,7 @@ final class ToldEdgesTest {
         meetsWhenAllStay();
         reasonThatIsFirst();
         reasonOfNoneAndAllHoles();
-        reasonOfForgedHoles();
+        holesTellNotDueOnes();
         kinOfItselfAlone();
         kinOfAllTickets();
         lightOfNoTicket();
@@ -216,17 +216,31 @@ final class ToldEdgesTest {
         due("one round, unlike distances", withTickets("", Checks.set(0, 1), Checks.set(0, 2)).reason(0, 1), 3);
     }
 
-    // "unlike numbers of holes", not of due ones
-    private static void reasonOfForgedHoles() {
+    // "Holes that are forged, and holes that are closed by fraud, change the holes of a ticket, but not its due ones"
+    private static void holesTellNotDueOnes() {
         HoleTickets x = withTickets("", Checks.set(0), Checks.set(5));
         x.forge(0, 23, true);
-        due("one more", x.reason(0, 1), 1);
+        due("one more: reason(0, 1)", x.reason(0, 1), 1);
+        due("one more: reason(1, 0)", x.reason(1, 0), 1);
+        due("the way from 0: meetsIn(0, 1)", x.meetsIn(0, 1), 5);
+        due("the way to 23: meetsIn(1, 0)", x.meetsIn(1, 0), 18);
         x.forge(0, 0, false);
-        due("as many again", x.reason(0, 1), 0);
+        due("as many again: reason(0, 1)", x.reason(0, 1), 0);
+        due("reason(1, 0)", x.reason(1, 0), 0);
         due("alikeIn(0, 1)", x.alikeIn(0, 1), 6);
+        due("alikeIn(1, 0)", x.alikeIn(1, 0), 18);
+        due("meetsIn(0, 1)", x.meetsIn(0, 1), 6);
         due("kin(1)", x.kin(1), 3);
+        stacked(x);
+        due("bestTurn(0, 0)", x.bestTurn(0, 0), 6);
+        due("bestTurn(1, 0)", x.bestTurn(1, 0), 18);
+        due("bestTurn(1, 1)", x.bestTurn(1, 1), 1);
         x.forge(0, 23, false);
-        due("none", x.reason(0, 1), 1);
+        due("none: reason(0, 1)", x.reason(0, 1), 1);
+        due("none: alikeIn(1, 0)", x.alikeIn(1, 0), NONE);
+        due("none: meetsIn(1, 0)", x.meetsIn(1, 0), NONE);
+        due("none: bestTurn(0, 1)", x.bestTurn(0, 1), 0);
+        due("none: kin(0)", x.kin(0), 1);
     }
 
     // "Returns the tickets, itself among them, as a set"
