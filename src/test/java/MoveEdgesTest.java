@@ -32,6 +32,7 @@ final class MoveEdgesTest {
         placeOfNoneAndAllTickets();
         moveOfBadWhat();
         moveOfNoExchange();
+        moveOfLongestRound();
         powerZeroAndOrder();
         powerAtItsEnds();
         powerBelowZeroIsTheWayBack();
@@ -342,6 +343,15 @@ final class MoveEdgesTest {
         due("two exchanges", x.move(4), 1);
         due("a round of 24 is 23 exchanges", new HoleTickets().move(4), 0);
         due("twelve pairs", Checks.withMove(ALL_PAIRS).move(4), 1);
+    }
+
+    // "3 for the longest round": one of the highest places, all places, and rounds of one place alone
+    private static void moveOfLongestRound() {
+        due("the highest places", Checks.withMove("(0,1)(21,22,23)").move(3), 3);
+        due("the lowest places", Checks.withMove("(0,1,2)(22,23)").move(3), 3);
+        due("all places", Checks.withMove(ONE_ROUND).move(3), 24);
+        due("all but one", Checks.withMove(ONE_ROUND.substring(0, 60) + ")").move(3), 23);
+        due("all stay", still().move(3), 1);
     }
 
     // "The power k of the move is the move k times one behind the other": none at all, and a whole order of them

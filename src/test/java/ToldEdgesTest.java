@@ -233,6 +233,7 @@ final class ToldEdgesTest {
         due("kin(1)", x.kin(1), 3);
         stacked(x);
         due("bestTurn(0, 0)", x.bestTurn(0, 0), 6);
+        due("bestTurn(0, 1)", x.bestTurn(0, 1), 1);
         due("bestTurn(1, 0)", x.bestTurn(1, 0), 18);
         due("bestTurn(1, 1)", x.bestTurn(1, 1), 1);
         x.forge(0, 23, false);
